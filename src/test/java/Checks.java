@@ -4,6 +4,14 @@ final class Checks {
         Object answer();
     }
 
+    interface OfCopy {
+        Object answer(int picture, int family);
+    }
+
+    interface OfOne {
+        Object answer(int number);
+    }
+
     private int made = 0;
     private int wrong = 0;
 
@@ -19,6 +27,34 @@ final class Checks {
 
     void isThrown(String what, Class<? extends RuntimeException> want, Call call) {
         due(what, "throws " + want.getSimpleName(), outcome(call));
+    }
+
+    /** Calls with a picture or a family that does not exist. */
+    void outside(String name, VillagePhotos archive, OfCopy call) {
+        for (int picture : numbersBeyond(archive.count(2))) {
+            isThrown(name + " of picture " + picture, IndexOutOfBoundsException.class, () -> call.answer(picture, 0));
+        }
+        for (int family : numbersBeyond(archive.count(1))) {
+            isThrown(name + " of family " + family, IndexOutOfBoundsException.class, () -> call.answer(0, family));
+        }
+    }
+
+    /** Calls with one number that does not exist, where there are so many. */
+    void outsideOne(String name, int many, OfOne call) {
+        for (int number : numbersBeyond(many)) {
+            isThrown(name + " of " + number, IndexOutOfBoundsException.class, () -> call.answer(number));
+        }
+    }
+
+    /** Calls with one number that is not allowed. */
+    void refusesNumbers(String name, OfOne call, int... numbers) {
+        for (int number : numbers) {
+            isThrown(name + " with " + number, IllegalArgumentException.class, () -> call.answer(number));
+        }
+    }
+
+    private static int[] numbersBeyond(int many) {
+        return new int[] {-1, many, many + 1, 64, Integer.MIN_VALUE, Integer.MAX_VALUE};
     }
 
     /** The answer of a call, or the name of what it threw. */
