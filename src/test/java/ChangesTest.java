@@ -62,6 +62,12 @@ public final class ChangesTest {
             CHECKS.due("a round is one change", 0, archive.count(8));
             CHECKS.refusesNumbers("round", archive::round, -1, -2, Integer.MIN_VALUE);
         }
+        VillagePhotos broken = Texts.archive(text);
+        broken.ask(0, 2, 0);
+        broken.harm(0, 31);
+        broken.harm(1, 31);
+        CHECKS.due("what was broken before is not counted", 3, broken.round(0));
+        CHECKS.due("all are broken", 4, broken.count(4));
         CHECKS.due("a round of nothing", 0, new VillagePhotos().round(7));
     }
 
@@ -263,6 +269,15 @@ public final class ChangesTest {
         CHECKS.due("it has none of mill", -1, archive.copy(0, 2));
         CHECKS.due("it has no neighbours", 0, archive.family(2, 6));
         CHECKS.due("no copy goes with it", 0, archive.leave(2));
+        CHECKS.due("families behind it", 2, archive.count(1));
+        VillagePhotos last = Texts.archive(SetupTest.VILLAGE);
+        CHECKS.due("the copy of the last one", 1, last.leave(3));
+        CHECKS.due("written without dora", "mill:anna,bo,carl lake:carl* barn:*", Texts.written(last));
+        CHECKS.due("neighbours of carl", 2, last.family(2, 6));
+        VillagePhotos first = Texts.archive(SetupTest.VILLAGE);
+        CHECKS.due("the copy of the first one", 1, first.leave(0));
+        CHECKS.due("written without anna", "mill:bo,carl lake:carl,dora* barn:*", Texts.written(first));
+        CHECKS.due("neighbours of bo", 2, first.family(0, 6));
     }
 
     private static void leaveInTheMiddle() {

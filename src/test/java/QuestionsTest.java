@@ -66,6 +66,8 @@ public final class QuestionsTest {
         archive.ask(2, 0, 15);
         CHECKS.due("none is held", -1, archive.bestTile(2));
         CHECKS.outsideOne("bestTile", 4, archive::bestTile);
+        archive.harm(0, 1);
+        CHECKS.due("the first tile", 0, archive.bestTile(0));
     }
 
     private static void roundsThatFind() {

@@ -9,6 +9,7 @@ public final class ReadingTest {
         replacing();
         syntaxErrors();
         everyEnd();
+        everyEndOfTheBuffer();
         everyByte();
         valueErrors();
         unknownNames();
@@ -60,19 +61,35 @@ public final class ReadingTest {
 
     private static void replacing() {
         VillagePhotos archive = Texts.archive(SetupTest.VILLAGE);
+        archive.ask(0, 1, 3);
         archive.ask(0, 0, 0);
-        archive.wave();
+        archive.repair(0, 1);
+        archive.ask(0, 0, 1);
+        archive.repair(0, 0);
+        archive.ask(0, 0, 1);
+        // what is tried out for an answer must not come into the next archive
+        archive.lost();
+        archive.wouldSpread();
         CHECKS.due("an error", VillagePhotos.VALUE_ERROR, Texts.load(archive, "tiles 4;family x 1;family y 0;"));
         CHECKS.due("the present one stays", "mill:anna,bo,carl lake:carl,dora* barn:*", Texts.written(archive));
-        CHECKS.due("its questions stay", 1, archive.count(8));
-        CHECKS.due("its repairs stay", 1, archive.count(9));
+        CHECKS.due("its questions stay", 3, archive.count(8));
+        CHECKS.due("its repairs stay", 2, archive.count(9));
+        archive.harm(0, 1);
+        archive.ask(0, 0, 0);
+        archive.wouldSpread();
         CHECKS.due("the buffer is empty behind an error", 1, archive.append(0, 0, 0, 0, ' '));
         CHECKS.due("a good text behind a space", 1, Texts.load(archive, HEAD + "picture p pledge 1 by a;"));
         CHECKS.due("it replaces", "p:a", Texts.written(archive));
         CHECKS.due("no question was asked", 0, archive.count(8));
         CHECKS.due("no repair was made", 0, archive.count(9));
-        CHECKS.due("no right answers", 0, archive.family(0, 3));
-        CHECKS.due("no wrong answers", 0, archive.family(0, 4));
+        for (int family = 0; family < 2; family++) {
+            CHECKS.due("no right answers", 0, archive.family(family, 3));
+            CHECKS.due("no wrong answers", 0, archive.family(family, 4));
+            CHECKS.due("copies", 1 - family, archive.family(family, 1));
+            CHECKS.due("no broken copies", 0, archive.family(family, 2));
+        }
+        CHECKS.due("no spoiled tile", 0, archive.copy(0, 0));
+        CHECKS.due("nobody with a broken copy", 0, archive.picture(0, 2));
         CHECKS.due("no neighbours", 0, archive.count(10));
         CHECKS.due("copies", 1, archive.count(3));
         CHECKS.due("the buffer is empty behind a good text", 1, archive.append(0, 0, 0, 0, ' '));
@@ -85,6 +102,12 @@ public final class ReadingTest {
         syntax("", "tilesx 4;");
         syntax("", "Tiles 4;");
         syntax("  ", "4;");
+        syntax("", "piles 4;");
+        syntax("tiles 4;", "gamily a 1;");
+        syntax(HEAD, "dear a b;");
+        syntax(HEAD, "victure p pledge 1;");
+        syntax(HEAD + "picture p ", "sledge 1;");
+        syntax(HEAD + "picture p pledge 1 ", "my a;");
         syntax("tiles ", "-4;");
         syntax("tiles ", "x;");
         syntax("tiles 4", ".;");
@@ -144,8 +167,27 @@ public final class ReadingTest {
             boolean startOfKeyword = word < end && text.substring(word).matches("(?s)(tiles|family|near|picture|pledge|by|spoiled)\\b.*")
                     && Character.isLetter(text.charAt(end));
             bad("the beginning", part, VillagePhotos.SYNTAX_ERROR, startOfKeyword ? word : end);
+            // what an earlier text left behind the end of this one must not be read
+            VillagePhotos archive = Texts.archive(text);
+            CHECKS.due("behind the whole text: " + part, VillagePhotos.SYNTAX_ERROR, Texts.load(archive, part));
+            CHECKS.due("position of it", startOfKeyword ? word : end, archive.errorPosition());
             if (!startOfKeyword) {
                 bad("the beginning and spaces", part + "  ", VillagePhotos.SYNTAX_ERROR, end + 2);
+            }
+        }
+    }
+
+    /** Texts of 600 bytes that end within a token, or lack one. */
+    private static void everyEndOfTheBuffer() {
+        String picture = "picture p pledge 1 by a spoiled 0 1 by b spoiled 3";
+        for (int end = 0; end <= picture.length(); end++) {
+            String part = picture.substring(0, end);
+            String text = HEAD + " ".repeat(600 - HEAD.length() - end) + part;
+            VillagePhotos archive = new VillagePhotos();
+            CHECKS.due("600 bytes up to " + part, end == 0 ? 0 : VillagePhotos.SYNTAX_ERROR,
+                    Texts.load(archive, text));
+            if (part.endsWith(" ") || part.matches(".*([0-9]|picture p|by [ab])")) {
+                CHECKS.due("position of an end in " + part, 600, archive.errorPosition());
             }
         }
     }

@@ -80,6 +80,11 @@ public final class RepairsTest {
         }
         archive.wave();
         dueOfWaves(archive, "behind a wave of nothing", 0, 3);
+        archive.undo();
+        archive.undo();
+        archive.roundsToFind(1);
+        CHECKS.due("lost, behind another call", 3, archive.lost());
+        CHECKS.due("waves, behind lost", 1, archive.waves());
     }
 
     private static void dueOfWaves(VillagePhotos archive, String when, int waves, int lost) {
@@ -126,6 +131,10 @@ public final class RepairsTest {
         archive.ask(0, 2, 0);
         archive.setPledge(1, 1);
         CHECKS.due("none is needed", -1, archive.mostNeeded());
+        VillagePhotos one = Texts.archive(ROW + "picture p pledge 1 by d;");
+        CHECKS.due("one picture is enough", 3, one.mostNeeded());
+        VillagePhotos first = Texts.archive(ROW + "picture p pledge 2 by d by a;");
+        CHECKS.due("the first of all", 0, first.mostNeeded());
     }
 
     private static void reach() {
@@ -145,6 +154,7 @@ public final class RepairsTest {
         archive.meet(0, 1);
         CHECKS.due("to all", 10, archive.reach(0));
         CHECKS.outsideOne("reach", 4, archive::reach);
+        CHECKS.due("along the numbers", 5, Texts.archive(ROW + "picture p pledge 1 by a;").reach(0));
     }
 
     private static void wouldSpread() {
@@ -177,6 +187,9 @@ public final class RepairsTest {
                 + "picture p pledge 3 by a;picture q pledge 2 by d;picture r pledge 2 by c by d;");
         // p may go on to c or d by a or b; only with d as a neighbour can q be saved too
         CHECKS.due("the first of several", 3, archive.bestPair());
+        archive.wouldSpread();
+        CHECKS.due("the same behind another call", 3, archive.bestPair());
+        CHECKS.due("and the other call behind it", 1, archive.wouldSpread());
         archive.setPledge(1, 1);
         CHECKS.due("the first of more", 2, archive.bestPair());
         archive.setPledge(0, 4);
