@@ -14,13 +14,23 @@ final class Checks {
 
     private int made = 0;
     private int wrong = 0;
+    private String about = "";
+
+    /** Tells what the checks from now on are about. */
+    void setAbout(String words) {
+        about = words;
+    }
+
+    int made() {
+        return made;
+    }
 
     void due(String what, Object want, Object got) {
         made++;
         if (!want.equals(got)) {
             wrong++;
             if (wrong <= 40) {
-                System.out.println(what + " answered " + got + ", due is " + want);
+                System.out.println(about + what + " answered " + got + ", due is " + want);
             }
         }
     }
