@@ -164,7 +164,8 @@ public final class ReadingTest {
             while (word > 0 && Character.isLetter(part.charAt(word - 1))) {
                 word--;
             }
-            boolean startOfKeyword = word < end && text.substring(word).matches("(?s)(tiles|family|near|picture|pledge|by|spoiled)\\b.*")
+            boolean startOfKeyword = word < end
+                    && text.substring(word).matches("(?s)(tiles|family|near|picture|pledge|by|spoiled)\\b.*")
                     && Character.isLetter(text.charAt(end));
             bad("the beginning", part, VillagePhotos.SYNTAX_ERROR, startOfKeyword ? word : end);
             // what an earlier text left behind the end of this one must not be read

@@ -4,6 +4,7 @@ final class SentencesOfLooking {
     private static final String ROW = "tiles 4;family a 9;family b 9;family c 9;family d 9;"
             + "near a b;near b c;near c d;";
     private static final String NO_PICTURE = "Throws `IndexOutOfBoundsException` if the picture does not exist";
+    private static final int LONG = 70;
     private static final int[] FAR = {Integer.MIN_VALUE, Integer.MAX_VALUE, 256, 65536};
 
     private final Sentences s;
@@ -340,15 +341,17 @@ final class SentencesOfLooking {
         });
         s.edge("NONE if 60 rounds would not.", () -> {
             VillagePhotos archive = s.good("tiles 16;family a 9;family b 9;picture p pledge 1 by a spoiled 5;");
-            boolean[] seen = new boolean[62];
-            for (int x = 0; !(seen[59] && seen[60] && seen[61]) && x < 100000; x++) {
+            boolean[] seen = new boolean[LONG + 1];
+            for (int x = 0; x < 100000; x++) {
                 int rounds = roundsToTile(x, 5);
                 if (!seen[rounds]) {
                     seen[rounds] = true;
-                    c.due("by " + x, rounds > 60 ? -1 : rounds, archive.roundsToFind(x));
+                    c.due("by " + x + ", " + rounds + " rounds", rounds > 60 ? -1 : rounds, archive.roundsToFind(x));
                 }
             }
-            c.due("59, 60 and more rounds were seen", true, seen[59] && seen[60] && seen[61]);
+            for (int rounds : new int[] {1, 59, 60, 61, 62, LONG}) {
+                c.due("some x takes " + rounds, true, seen[rounds]);
+            }
             c.due("questions", 0, archive.count(8));
         });
         s.edge("Throws `IllegalArgumentException` if x is out of range", () -> {
@@ -357,16 +360,16 @@ final class SentencesOfLooking {
         });
     }
 
-    /** How many questions by x until one is about a tile of 16; 61 if more than 60. */
+    /** How many questions by x until one is about a tile of 16; LONG if that many would not do. */
     private static int roundsToTile(int x, int tile) {
         long number = x;
-        for (int rounds = 1; rounds <= 60; rounds++) {
+        for (int rounds = 1; rounds < LONG; rounds++) {
             number = (1103515245L * number + 12345L) % 2147483648L;
             if (number / 65536L % 16L == tile) {
                 return rounds;
             }
         }
-        return 61;
+        return LONG;
     }
 
     private void leastTrusted() {

@@ -57,6 +57,14 @@ final class SentencesOfTexts {
             c.due("two tiles", 9, more.copy(0, 2));
             c.due("four tiles", 15, more.copy(0, 1));
             s.error(SYNTAX, "", "TILES 4;family a 2;family b 2;");
+            s.error(SYNTAX, "", "siles 4;");
+            s.error(SYNTAX, "tiles 4;", "gamily a 2;");
+            s.error(SYNTAX, HEAD, "mear a b;");
+            s.error(SYNTAX, HEAD, "qicture p pledge 1;");
+            s.error(SYNTAX, HEAD + "picture p ", "qledge 1;");
+            s.error(SYNTAX, HEAD + "picture p pledge 1 ", "cy a;");
+            s.error(SYNTAX, HEAD + "picture p pledge 1 by a ", "tpoiled 0;");
+            s.error(SYNTAX, HEAD + "picture p pledge 1 by a ", "spoiles 0;");
             s.error(SYNTAX, HEAD, ";");
             s.error(SYNTAX, HEAD + "near a b", ",");
         });
@@ -190,8 +198,29 @@ final class SentencesOfTexts {
                 text.append(tokens[k]);
             }
             c.due("the whole text", 1, s.good(text.toString()).count(2));
-            s.error(SYNTAX, HEAD + " ".repeat(600 - HEAD.length() - 4) + "near", "");
+            endBehindMore(text.toString(), tokens);
+            for (String last : new String[] {"near", "near a", "near a b", "picture", "picture p", "picture p pledge",
+                "picture p pledge 1", "picture p pledge 1 by", "picture p pledge 1 by a",
+                "picture p pledge 1 by a spoiled", "picture p pledge 1 by a spoiled 0"}) {
+                s.error(SYNTAX, HEAD + " ".repeat(600 - HEAD.length() - last.length()) + last, "");
+            }
         });
+    }
+
+    /** An end is an end, also where the bytes of a longer text stood in the buffer before. */
+    private void endBehindMore(String text, String[] tokens) {
+        int end = 0;
+        for (int k = 0; k < tokens.length; k++) {
+            if (k != 11 && k != 15) {
+                VillagePhotos archive = s.good(text);
+                c.due("load of " + text.substring(0, end), SYNTAX, Texts.load(archive, text.substring(0, end)));
+                c.due("position in " + text.substring(0, end), end, archive.errorPosition());
+            }
+            end += tokens[k].length();
+        }
+        VillagePhotos digits = s.good("tiles 4;family a 1;family b 17;");
+        c.due("a number at the end", SYNTAX, Texts.load(digits, "tiles 4;family a 1;family b 1"));
+        c.due("the position behind it", 29, digits.errorPosition());
     }
 
     private void otherErrors() {
@@ -280,9 +309,6 @@ final class SentencesOfTexts {
             s.error(TOO_MANY, twelve, "picture");
             s.error(SYNTAX, twelve, "pictures");
         });
-        for (String code : new String[] {"SYNTAX_ERROR: ", "VALUE_ERROR: ", "UNKNOWN: ", "TWICE: ", "NO_ROOM: ", "TOO_MANY: "}) {
-            s.plain(code);
-        }
     }
 
     private void newObject() {
@@ -517,6 +543,46 @@ final class SentencesOfTexts {
             c.due("copies", 81, archive.spread());
             c.due("of all", 9 * (2 + 80 + 9) + 8, archive.writePictures());
         });
+        s.edge("the names of the families with a copy of it by their numbers, separated by commas, with an exclamation mark "
+                + "behind that of a broken copy;", this::longestText);
+    }
+
+    /** Twelve pictures, each with ten broken copies; a text of 600 bytes has no room for longer names. */
+    private void longestText() {
+        StringBuilder text = new StringBuilder("tiles4;");
+        for (char name = 'a'; name <= 'j'; name++) {
+            text.append("family ").append(String.valueOf(name).repeat(8)).append("20;");
+        }
+        StringBuilder want = new StringBuilder();
+        for (char name = 'a'; name <= 'l'; name++) {
+            String picture = String.valueOf(name).repeat(name < 'f' ? 7 : 6);
+            text.append("picture ").append(picture).append(" pledge9by aaaaaaaa;");
+            want.append(want.length() == 0 ? "" : " ").append(picture).append(':');
+            for (char family = 'a'; family <= 'j'; family++) {
+                want.append(family == 'a' ? "" : ",").append(String.valueOf(family).repeat(8)).append('!');
+            }
+            want.append('*');
+        }
+        c.due("length of the text that is read", true, text.length() > 590);
+        VillagePhotos archive = s.good(text.toString());
+        for (int family = 1; family < 10; family++) {
+            archive.meet(0, family);
+        }
+        for (int picture = 0; picture < 12; picture++) {
+            archive.setPledge(picture, 10);
+        }
+        c.due("copies", 108, archive.spread());
+        for (int family = 0; family < 10; family++) {
+            archive.harm(family, 15);
+        }
+        c.due("broken copies", 120, archive.round(0));
+        c.due("length", want.length(), archive.writePictures());
+        // each third byte: all of them would be more calls than an object is used for
+        for (int k = 0; k < want.length(); k += 3) {
+            c.due("byte " + k, (int) want.charAt(k), archive.writtenByte(k));
+        }
+        c.due("the last byte", (int) '*', archive.writtenByte(want.length() - 1));
+        c.isThrown("a byte behind the last", IndexOutOfBoundsException.class, () -> archive.writtenByte(want.length()));
     }
 
     private void writtenByte() {
