@@ -85,6 +85,9 @@ public final class WritingTest {
         }
         CHECKS.due("copies", 72, archive.spread());
         CHECKS.due("length", want.length(), archive.writePictures());
-        CHECKS.due("written", want.toString(), Texts.written(archive));
+        for (int k = 0; k < want.length(); k += 2) {
+            CHECKS.due("byte " + k, (int) want.charAt(k), archive.writtenByte(k));
+        }
+        CHECKS.isThrown("a byte behind them", IndexOutOfBoundsException.class, () -> archive.writtenByte(want.length()));
     }
 }
